@@ -123,16 +123,25 @@ final class ChancesTest {
         Due.is("nobody: never", new HungryJury().assizes(20), 0);
     }
 
-    /** Sides 0 to 5 toss, 6 and more are hours: told by a tie of two that nothing but a toss can break. */
-    private static void assizesOfTosses() {
-        HungryJury x = Due.jury("J6P190P090");
-        long seed = 0;
+    /** Whether there is a verdict behind each side, 0 to 8, of the one throw. */
+    private static void assizesOfSides(String text, int... due) {
+        HungryJury x = Due.jury(text);
+        int seen = 0;
         for (int run = 0; run < 200; run++) {
             x.seed(run * 1000003L);
-            seed = run * 1000003L * 6364136223846793005L + 1442695040888963407L;
-            long side = (seed >>> 33) % 9;
-            Due.is("side " + side, x.assizes(1), side < 2 ? 1 : 0);
+            int side = (int) (((run * 1000003L * 6364136223846793005L + 1442695040888963407L) >>> 33) % 9);
+            seen |= 1 << side;
+            Due.is("side " + side + " with " + text, x.assizes(1), due[side]);
         }
+        Due.is("all sides were up", seen, 511);
+    }
+
+    /** Sides 0 to 5 toss whoever is there, 6 and more are hours. */
+    private static void assizesOfTosses() {
+        assizesOfSides("J6P190P090", 1, 1, 0, 0, 0, 0, 0, 0, 0);
+        assizesOfSides("J6P190P190P020", 0, 0, 1, 0, 0, 0, 1, 1, 1);
+        assizesOfSides("J6P190P190P190P190P190P090", 0, 0, 0, 0, 0, 1, 0, 0, 0);
+        HungryJury x = Due.jury("J6P190P090");
         x.die(1);
         x.seed(0);
         Due.is("one alone: always", x.assizes(20), 20);

@@ -72,6 +72,14 @@ final class SeenTest {
         firsts("who is for what now is not asked", x, 2, 1, 4);
     }
 
+    private static void seenInNineHours() {
+        HungryJury x = Due.jury("J6P190P190P093");
+        x.see(2, 9, 1);
+        firsts("yes in nine hours", x, 4, 0, 0);
+        x.see(2, 8, 0);
+        firsts("but not in eight", x, 1, 3, 4);
+    }
+
     private static void deadAreNotLookedAt() {
         HungryJury x = Due.jury("J6P190P190P090");
         x.see(2, 0, 1);
@@ -110,6 +118,7 @@ final class SeenTest {
         unsee();
         first();
         fromHowAllIs();
+        seenInNineHours();
         deadAreNotLookedAt();
         nothingChanges();
         Due.finish();

@@ -148,6 +148,10 @@ final class TextTest {
         Due.is("three", x.jury(), 3);
         Due.is("heeds of 0", x.juror(0, 4), 4);
         Due.is("heeds of 1", x.juror(1, 4), 0);
+        Due.rewrite(x, "J4P090P190");
+        Due.is("two again", x.jury(), 2);
+        Due.is("for no now", x.juror(0, 0), 0);
+        Due.is("who is for yes", x.count(5), 2);
     }
 
     private static void juror() {

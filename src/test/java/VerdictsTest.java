@@ -107,6 +107,7 @@ final class VerdictsTest {
         x = Due.jury("J6P090P190P090P190P090P190");
         x.toss(4);
         Due.is("the least of like many", x.strike(0), 2 + 8 + 16);
+        Due.is("five of six", Due.jury("J6P190P190P190P190P090P190").strike(0), 47);
         x = Due.jury("J6P190P190");
         Due.is("not all", x.strike(0), HungryJury.NONE);
         Due.is("all are already", x.strike(1), 0);
