@@ -84,16 +84,6 @@ final class ChancesTest {
         coinsOf(x, 9, 1, 3321, 50000);
     }
 
-    private static void coinsRefused() {
-        HungryJury x = Due.jury("J6P190P090");
-        for (int v : new int[] {-9, -1, 2, 8, 10, Integer.MAX_VALUE, Integer.MIN_VALUE}) {
-            Due.is("coins v " + v, x.coins(v, 5, true), HungryJury.OUTSIDE);
-            Due.is("coins v " + v + " below", x.coins(v, 5, false), HungryJury.OUTSIDE);
-        }
-        Due.is("coins x -1", x.coins(1, -1, true), HungryJury.OUTSIDE);
-        Due.is("coins x 11", x.coins(1, 11, false), HungryJury.OUTSIDE);
-    }
-
     private static void seed() {
         HungryJury x = Due.jury("J6P190P090");
         Due.is("at first", x.seed(5), 0);
@@ -167,7 +157,6 @@ final class ChancesTest {
         share();
         rests();
         coins();
-        coinsRefused();
         seed();
         assizes();
         assizesOfTosses();

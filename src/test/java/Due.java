@@ -2,35 +2,49 @@
 final class Due {
     private static int checks = 0;
     private static int wrong = 0;
+    private static int ofSentence = 1;
+    private static String sentence = "";
 
     private Due() {
     }
 
+    /** Names the sentence of the document, and where it stands, that the checks behind it are for. */
+    static void sentence(String where, String words) {
+        that("there is a check", ofSentence > 0);
+        ofSentence = 0;
+        sentence = where + ", \"" + words + "\": ";
+    }
+
     static void is(String what, long got, long want) {
-        checks++;
+        count();
         if (got != want) {
             tell(what + " answered " + got + ", due is " + want);
         }
     }
 
     static void same(String what, String got, String want) {
-        checks++;
+        count();
         if (!got.equals(want)) {
             tell(what + " is " + got + ", due is " + want);
         }
     }
 
     static void that(String what, boolean holds) {
-        checks++;
+        count();
         if (!holds) {
             tell(what + " doesn't hold");
         }
     }
 
+    private static void count() {
+        checks++;
+        ofSentence++;
+    }
+
     private static void tell(String fault) {
         wrong++;
         if (wrong <= 40) {
-            System.out.println(fault);
+            System.out.println(sentence + fault);
         }
     }
 
@@ -40,6 +54,7 @@ final class Due {
 
     /** To be called last: ends the run with 1, if a check failed or none was made. */
     static void finish() {
+        that("there is a check", ofSentence > 0);
         System.out.println(checks + " checks, " + wrong + " wrong");
         if (wrong != 0 || checks == 0) {
             System.exit(1);

@@ -59,21 +59,6 @@ final class SlotsTest {
         Due.is("the text stays", x.count(0), 11);
     }
 
-    private static void refused() {
-        HungryJury x = Due.jury("J6P190P090");
-        x.hour();
-        x.keep(0);
-        x.hour();
-        String before = Due.stateOf(x);
-        for (int slot : new int[] {-1, 2, Integer.MIN_VALUE, Integer.MAX_VALUE}) {
-            Due.is("keep " + slot, x.keep(slot), HungryJury.UNKNOWN);
-            Due.is("again " + slot, x.again(slot), HungryJury.UNKNOWN);
-        }
-        Due.is("again 1", x.again(1), HungryJury.STATE);
-        Due.same("state", Due.stateOf(x), before);
-        Due.is("again 0", x.again(0), 1);
-    }
-
     private static void count() {
         HungryJury x = Due.jury("J3P190P090P190P040H02");
         x.write('J');
@@ -99,7 +84,6 @@ final class SlotsTest {
     public static void main(String[] args) {
         keepAndAgain();
         notKept();
-        refused();
         count();
         Due.finish();
     }
