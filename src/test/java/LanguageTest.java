@@ -21,6 +21,11 @@ final class LanguageTest {
         "int rests(int,int,int)", "int coins(int,int,boolean)", "long seed(long)", "int assizes(int)",
         "int keep(int)", "int again(int)", "int count(int)"};
 
+    /** What the interface says ahead of its calls, each ahead of the first call that it is said of. */
+    private static final String[][] AHEAD = {
+        {"the jury", "write"}, {"acts", "hour"}, {"verdicts", "ahead"}, {"seen", "see"},
+        {"shares, rests, chances", "share"}, {"slots", "keep"}};
+
     private static final String[] CONSTANTS = {"UNKNOWN", "OUTSIDE", "STATE", "FULL", "NONE"};
 
     private static String told(Method m) {
@@ -91,6 +96,23 @@ final class LanguageTest {
         }
     }
 
+    private static void order(String text) {
+        int heading = 0;
+        int before = -1;
+        for (String method : FACE) {
+            String name = method.substring(method.indexOf(' ') + 1, method.indexOf('('));
+            int at = text.indexOf("\n    public " + method.substring(0, method.indexOf('(') + 1));
+            Due.that(name + " stands behind the call ahead of it", at > before);
+            if (heading < AHEAD.length && AHEAD[heading][1].equals(name)) {
+                int said = text.indexOf("// ---- " + AHEAD[heading][0] + "\n");
+                Due.that(AHEAD[heading][0] + " is said ahead of " + name, said > before && said < at);
+                heading++;
+            }
+            before = at;
+        }
+        Due.is("what is said ahead of calls", heading, AHEAD.length);
+    }
+
     private static void words(String source) {
         String[] forbidden = {"\\bthrows?\\b", "\\btry\\b", "\\bcatch\\b", "\\bsynchronized\\b", "\\bassert\\b",
             "\\bimport\\b", "\\bpackage\\b", "->", "::", "\\bSystem\\b", "\\bRandom\\b", "\\bThread\\b", "Exact\\b",
@@ -133,6 +155,7 @@ final class LanguageTest {
         String source = text.replaceAll("(?s)/\\*.*?\\*/", "").replaceAll("//[^\n]*", "");
         face();
         classes();
+        order(text);
         words(source);
         nothingMadeInCalls(source);
         lengths(source);
